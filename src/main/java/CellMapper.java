@@ -999,7 +999,9 @@ public final class CellMapper {
      * Finds the fewest moves that lead to the shortest period, and makes them.
      *
      * <p>A gate from which a path without latches is longer than is wanted must move at least once
-     * more than it has, whatever the others do; so moves that only grow by need are the fewest.
+     * more than it has, whatever the others do; so moves that only grow by need are the fewest. A
+     * need is handed on from gate to gate, one in a round: what is not met after as many rounds as
+     * there are gates goes round in a circle, and is never met.
      */
     private static final class Retiming {
         private static final int MAX_ROUNDS = MAX_NODES * MAX_NODES;
@@ -1038,15 +1040,21 @@ public final class CellMapper {
             periodBefore = measure();
             periodAfter = periodBefore;
             int floor = slowestGate();
-            for (int round = 0; round < MAX_ROUNDS && periodAfter > floor; round++) {
+            int unmet = 0;
+            for (int round = 0; round < MAX_ROUNDS && unmet < cover.gateCount(); round++) {
+                if (periodAfter == floor) {
+                    break;
+                }
                 raise(periodAfter - 1);
-                if (!isPossible()) {
+                if (hasTakenTooMany()) {
                     break;
                 }
                 int reached = measure();
+                unmet++;
                 if (reached < periodAfter) {
                     periodAfter = reached;
                     System.arraycopy(trial, 0, moves, 0, MAX_NODES);
+                    unmet = 0;
                 }
             }
             makeMoves();
@@ -1109,22 +1117,14 @@ public final class CellMapper {
             }
         }
 
-        /**
-         * A need for more moves than one less than there are gates goes round in a circle and never
-         * ends; a connection from an input can be asked for more latches than it has.
-         */
-        private boolean isPossible() {
-            for (int index = 0; index < cover.gateCount(); index++) {
-                if (trial[cover.gate(index)] >= cover.gateCount()) {
-                    return false;
-                }
-            }
+        /** Between gates a raise keeps every count at 0 or above; inputs have no moves to keep up. */
+        private boolean hasTakenTooMany() {
             for (int connection = 0; connection < connections.size(); connection++) {
                 if (trialCount(connection) < 0) {
-                    return false;
+                    return true;
                 }
             }
-            return true;
+            return false;
         }
 
         /** Moves in any order give the same latches, so each round makes those that can be made. */

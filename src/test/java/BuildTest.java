@@ -11,6 +11,7 @@ public final class BuildTest {
         functionsOfOneNet();
         functionsOfTwoNets();
         functionsOfThreeNets();
+        lowHalfFirst();
         functionsOfLikeNets();
         functionRefusals();
         functionNodeLimit();
@@ -218,6 +219,21 @@ public final class BuildTest {
         CHECK.due("4: and", x.function(0, 1, 2, 0x80), 8);
         CHECK.due("9: and", x.nodeOf(8), 10);
         CHECK.due("10: inner and", x.part(9, 1), 8);
+    }
+
+    /** XOR of a and b when c is 0, AND of them when it is 1. */
+    private static void lowHalfFirst() {
+        CellMapper x = withInputs(3);
+        CHECK.due("4: both halves", x.function(0, 1, 2, 0x86), 3);
+        CHECK.due("9: the whole", x.nodeOf(3), 13);
+        int[][] parts = {
+            {0, -1}, {1, 3}, {1, -1}, {0, 5}, {4, 6}, {0, 1}, {8, -1}, {2, 9}, {2, -1}, {7, 11}, {10, 12}
+        };
+        CHECK.due("8: nodes()", x.nodes(), 3 + parts.length);
+        for (int k = 0; k < parts.length; k++) {
+            CHECK.due("10: x of " + (3 + k), x.part(3 + k, 0), parts[k][0]);
+            CHECK.due("10: y of " + (3 + k), x.part(3 + k, 1), parts[k][1]);
+        }
     }
 
     private static void functionsOfLikeNets() {

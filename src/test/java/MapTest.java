@@ -27,12 +27,22 @@ public final class MapTest {
         leftmostNandNotSwapped();
         swappedWhenCheaper();
         secondNandNotSwapped();
+        leftmostNandCountsFirst();
         parityOfThree();
         CHECK.finish();
     }
 
     private static CellMapper basic() {
         CellMapper x = new CellMapper();
+        x.cell(INV, 1, 1);
+        x.cell(NAND, 2, 1);
+        return x;
+    }
+
+    /** Among cells of like cost the one that reaches over two nodes has the lowest number. */
+    private static CellMapper andFirst() {
+        CellMapper x = new CellMapper();
+        x.cell(AND, 1, 1);
         x.cell(INV, 1, 1);
         x.cell(NAND, 2, 1);
         return x;
@@ -60,6 +70,10 @@ public final class MapTest {
         x.cell(INV, 1, 1);
         CHECK.due("11: both", x.map(), 0);
         CHECK.due("12: no gates", x.area(), 0);
+        CellMapper y = new CellMapper();
+        y.cell(INV, 1, 1);
+        y.cell(NAND_INV_PIN, 1, 1);
+        CHECK.due("11: INV alone", y.map(), -5);
     }
 
     private static void ringThroughFunction() {
@@ -226,8 +240,7 @@ public final class MapTest {
     }
 
     private static void rootsAreNotCovered() {
-        CellMapper x = basic();
-        x.cell(AND, 1, 1);
+        CellMapper x = andFirst();
         x.input();
         x.input();
         x.input();
@@ -235,18 +248,17 @@ public final class MapTest {
         x.function(2, 3, -1, 7);
         x.output(4);
         CHECK.due("11: one use", x.map(), 2);
-        CHECK.due("13: AND below a NAND", x.cellAt(4), 2);
+        CHECK.due("13: AND below a NAND", x.cellAt(4), 0);
         x.function(0, 1, -1, 7);
         x.function(5, 2, -1, 8);
         x.output(6);
         CHECK.due("11: NAND used twice", x.map(), 4);
-        CHECK.due("13: the shared NAND", x.cellAt(3), 1);
-        CHECK.due("13: the INV on it", x.cellAt(4), 0);
+        CHECK.due("13: the shared NAND", x.cellAt(3), 2);
+        CHECK.due("13: the INV on it", x.cellAt(4), 1);
     }
 
     private static void outputNodesAreRoots() {
-        CellMapper x = basic();
-        x.cell(AND, 1, 1);
+        CellMapper x = andFirst();
         x.input();
         x.input();
         x.function(0, 1, -1, 8);
@@ -255,13 +267,12 @@ public final class MapTest {
         CHECK.due("11: AND", x.map(), 1);
         x.output(3);
         CHECK.due("11: its NAND is an output", x.map(), 2);
-        CHECK.due("13: INV", x.cellAt(3), 0);
-        CHECK.due("13: NAND", x.cellAt(2), 1);
+        CHECK.due("13: INV", x.cellAt(3), 1);
+        CHECK.due("13: NAND", x.cellAt(2), 2);
     }
 
     private static void latchDriversAreRoots() {
-        CellMapper x = basic();
-        x.cell(AND, 1, 1);
+        CellMapper x = andFirst();
         x.input();
         x.input();
         x.latch(0);
@@ -269,11 +280,12 @@ public final class MapTest {
         x.function(3, -1, -1, 1);
         x.drive(2, 3);
         CHECK.due("11: AND into a latch of no use", x.map(), 1);
-        CHECK.due("13: AND", x.cellAt(4), 2);
+        CHECK.due("13: AND", x.cellAt(4), 0);
         x.latch(0);
         x.drive(5, 4);
         CHECK.due("11: its NAND into a latch", x.map(), 2);
         CHECK.due("12: area", x.area(), 3);
+        CHECK.due("13: INV", x.cellAt(4), 1);
     }
 
     /** NAND(INV(a), INV(b)) under NAND(INV(pin), pin): which INV is inside shows where the pins lie. */
@@ -337,6 +349,35 @@ public final class MapTest {
         CHECK.due("17: pin 1", x.latches(top, 1), 2);
         CHECK.due("17: pin 2, the first is swapped", x.latches(top, 2), 0);
         CHECK.due("17: no pin 3", x.latches(top, 3), -1);
+    }
+
+    /**
+     * NAND(NAND(INV(pin), pin), pin) on NAND(NAND(p, INV(q)), NAND(INV(r), s)): one of its two NANDs must be
+     * swapped, and it is the second.
+     */
+    private static void leftmostNandCountsFirst() {
+        CellMapper x = basic();
+        x.cell(1391, 1, 1);
+        x.input();
+        x.input();
+        x.input();
+        x.function(1, 0, -1, 11);
+        x.function(2, -1, -1, 1);
+        x.input();
+        x.function(2, 5, -1, 11);
+        x.function(3, 6, -1, 7);
+        x.output(7);
+        CHECK.due("10: x of the top", x.part(9, 0), 4);
+        CHECK.due("10: y of the top", x.part(9, 1), 7);
+        CHECK.due("10: INV is the second of x", x.part(4, 1), 3);
+        CHECK.due("10: INV is the first of y", x.part(7, 0), 5);
+        CHECK.due("11: map()", x.map(), 3);
+        CHECK.due("12: area()", x.area(), 4);
+        CHECK.due("13: the top", x.cellAt(9), 2);
+        CHECK.due("13: x is inside", x.cellAt(4), -1);
+        CHECK.due("13: INV of x is inside", x.cellAt(3), -1);
+        CHECK.due("13: y is a gate", x.cellAt(7), 1);
+        CHECK.due("13: INV of y is a gate", x.cellAt(5), 0);
     }
 
     private static void parityOfThree() {

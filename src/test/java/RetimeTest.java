@@ -13,6 +13,7 @@ public final class RetimeTest {
         latchIntoEachConnection();
         inputsGiveNoLatches();
         ringOfGates();
+        signalsAgainstTheNumbers();
         manyMoves();
         latchesOfOutputs();
         latchValues();
@@ -177,6 +178,39 @@ public final class RetimeTest {
         CHECK.due("17: first INV's pin", x.latches(2, 0), 1);
         CHECK.due("17: NAND from the last INV", x.latches(3, 0), 2 + 64 * 2);
         CHECK.due("17: NAND from the first INV", x.latches(3, 1), 1);
+    }
+
+    /** A ring INV, NAND, INV with two latches before it: both move on, and the last gate feeds the first. */
+    private static void signalsAgainstTheNumbers() {
+        CellMapper x = basic(1, 2);
+        x.latch(0);
+        x.latch(1);
+        x.latch(0);
+        x.drive(1, 0);
+        x.function(1, -1, -1, 1);
+        x.function(2, -1, -1, 1);
+        x.function(3, 2, -1, 8);
+        x.drive(0, 5);
+        x.drive(2, 4);
+        x.output(5);
+        x.output(1);
+        CHECK.due("11: map()", x.map(), 4);
+        CHECK.due("14: INV, NAND, INV", x.period(), 4);
+        CHECK.due("15: NAND apart", x.shortest(), 2);
+        CHECK.due("16: first INV", x.moves(3), 2);
+        CHECK.due("16: INV in a ring of its own", x.moves(4), 1);
+        CHECK.due("16: NAND", x.moves(5), 1);
+        CHECK.due("16: last INV", x.moves(6), 0);
+        CHECK.due("17: last INV to the first", x.latches(3, 0), 0);
+        CHECK.due("17: first INV to the NAND", x.latches(5, 1), 65);
+        CHECK.due("17: other INV to the NAND", x.latches(5, 0), 65);
+        CHECK.due("17: NAND to the last INV", x.latches(6, 0), 65);
+        CHECK.due("17: output behind both latches", x.latches(-1, 1), 2 + 64 * 2);
+        int[] due = {2, 1, 0, 2, 0, 1, 0, 2, 0};
+        for (int cycle = 0; cycle < due.length; cycle++) {
+            CHECK.due("18: cycle " + cycle, x.clock(0), due[cycle]);
+            CHECK.due("19: cycle " + cycle, x.clockRetimed(0), due[cycle]);
+        }
     }
 
     /**
