@@ -16,17 +16,10 @@ public final class ClockTest {
         CHECK.finish();
     }
 
-    private static CellMapper basic() {
-        CellMapper x = new CellMapper();
-        x.cell(6, 1, 1);
-        x.cell(23, 2, 1);
-        return x;
-    }
-
     /** Every table of three nets, by the rule of its bits. */
     private static void tables() {
         for (int table = 1; table < 255; table++) {
-            CellMapper x = basic();
+            CellMapper x = Samples.withCells();
             x.input();
             x.input();
             x.input();
@@ -40,7 +33,7 @@ public final class ClockTest {
     }
 
     private static void higherBits() {
-        CellMapper x = basic();
+        CellMapper x = Samples.withCells();
         x.latch(0);
         x.input();
         x.function(1, -1, -1, 1);
@@ -59,7 +52,7 @@ public final class ClockTest {
     }
 
     private static void undriven() {
-        CellMapper x = basic();
+        CellMapper x = Samples.withCells();
         x.input();
         x.output(0);
         CHECK.due("18: without latches", x.clock(1), 1);
@@ -71,7 +64,7 @@ public final class ClockTest {
     }
 
     private static CellMapper exchange() {
-        CellMapper x = basic();
+        CellMapper x = Samples.withCells();
         x.latch(1);
         x.latch(0);
         x.drive(0, 1);
@@ -88,21 +81,8 @@ public final class ClockTest {
         CHECK.due("18: back", x.clock(0), 1);
     }
 
-    private static CellMapper counter() {
-        CellMapper x = basic();
-        x.latch(0);
-        x.latch(1);
-        x.function(0, -1, -1, 1);
-        x.function(0, 1, -1, 6);
-        x.drive(0, 2);
-        x.drive(1, 3);
-        x.output(0);
-        x.output(1);
-        return x;
-    }
-
     private static void independence() {
-        CellMapper x = counter();
+        CellMapper x = Samples.counter();
         x.map();
         int[] due = {2, 3, 0, 1, 2, 3};
         for (int cycle = 0; cycle < 3; cycle++) {
@@ -116,7 +96,7 @@ public final class ClockTest {
 
     private static void additionsRestart() {
         for (int addition = 0; addition < 6; addition++) {
-            CellMapper x = counter();
+            CellMapper x = Samples.counter();
             x.clock(0);
             x.clock(0);
             switch (addition) {
@@ -125,14 +105,14 @@ public final class ClockTest {
                 case 2: x.function(0, -1, -1, 2); break;
                 case 3: x.drive(0, 2); break;
                 case 4: x.output(0); break;
-                default: x.cell(94, 1, 1); break;
+                default: x.cell(Samples.AND, 1, 1); break;
             }
             CHECK.due("18: again from the start behind addition " + addition, x.clock(0) & 3, 2);
         }
     }
 
     private static void refusalsDoNotRestart() {
-        CellMapper x = counter();
+        CellMapper x = Samples.counter();
         x.map();
         x.clock(0);
         x.clockRetimed(0);
@@ -146,7 +126,7 @@ public final class ClockTest {
     }
 
     private static void mapRestartsTheRetimedOne() {
-        CellMapper x = counter();
+        CellMapper x = Samples.counter();
         x.map();
         x.clock(0);
         x.clockRetimed(0);
@@ -156,7 +136,7 @@ public final class ClockTest {
     }
 
     private static void resets() {
-        CellMapper x = counter();
+        CellMapper x = Samples.counter();
         x.clock(0);
         x.reset();
         CHECK.due("20: given, not mapped", x.clock(0), 2);
@@ -175,10 +155,10 @@ public final class ClockTest {
     /** Latches before a function of three nets, of several cells: both circuits show the same. */
     private static void retimedTables() {
         for (int table = 1; table < 255; table++) {
-            CellMapper x = basic();
-            x.cell(94, 2, 2);
-            x.cell(411, 2, 1);
-            x.cell(5983, 3, 2);
+            CellMapper x = Samples.withCells();
+            x.cell(Samples.AND, 2, 2);
+            x.cell(Samples.OR, 2, 1);
+            x.cell(Samples.pattern("3311311"), 3, 2);
             x.input();
             for (int latch = 1; latch <= 6; latch++) {
                 x.latch((table >> latch) & 1);

@@ -1,12 +1,12 @@
 /** Promises 11 to 13: mapping, its refusals, area and the cells of the gates. */
 public final class MapTest {
-    private static final int INV = 6;
-    private static final int NAND = 23;
-    private static final int AND = 94;
-    private static final int OR = 411;
-    private static final int NAND_INV_PIN = 91;
-    private static final int NAND_PIN_INV = 103;
-    private static final int NAND_NAND_PIN = 351;
+    private static final int INV = Samples.INV;
+    private static final int NAND = Samples.NAND;
+    private static final int AND = Samples.AND;
+    private static final int OR = Samples.OR;
+    private static final int NAND_INV_PIN = Samples.pattern("3211");
+    private static final int NAND_PIN_INV = Samples.pattern("3121");
+    private static final int NAND_NAND_PIN = Samples.pattern("33111");
     private static final Check CHECK = new Check();
 
     public static void main(String[] args) {
@@ -30,13 +30,6 @@ public final class MapTest {
         leftmostNandCountsFirst();
         parityOfThree();
         CHECK.finish();
-    }
-
-    private static CellMapper basic() {
-        CellMapper x = new CellMapper();
-        x.cell(INV, 1, 1);
-        x.cell(NAND, 2, 1);
-        return x;
     }
 
     /** Among cells of like cost the one that reaches over two nodes has the lowest number. */
@@ -65,7 +58,7 @@ public final class MapTest {
         x.cell(AND, 1, 1);
         x.cell(NAND, 1, 1);
         CHECK.due("11: NAND alone", x.map(), -5);
-        x.cell(26, 1, 1);
+        x.cell(Samples.pattern("221"), 1, 1);
         CHECK.due("11: INV(INV(pin)) is not INV(pin)", x.map(), -5);
         x.cell(INV, 1, 1);
         CHECK.due("11: both", x.map(), 0);
@@ -77,7 +70,7 @@ public final class MapTest {
     }
 
     private static void ringThroughFunction() {
-        CellMapper x = basic();
+        CellMapper x = Samples.withCells();
         x.latch(0);
         x.function(0, -1, -1, 2);
         x.drive(0, 1);
@@ -88,7 +81,7 @@ public final class MapTest {
     }
 
     private static void ringOfOne() {
-        CellMapper x = basic();
+        CellMapper x = Samples.withCells();
         x.latch(1);
         x.drive(0, 0);
         CHECK.due("11: latch by itself", x.map(), -4);
@@ -96,7 +89,7 @@ public final class MapTest {
     }
 
     private static void ringAsideOfOutputs() {
-        CellMapper x = basic();
+        CellMapper x = Samples.withCells();
         x.input();
         for (int latch = 0; latch < 6; latch++) {
             x.latch(0);
@@ -113,7 +106,7 @@ public final class MapTest {
     }
 
     private static CellMapper mappedOne() {
-        CellMapper x = basic();
+        CellMapper x = Samples.withCells();
         x.input();
         x.latch(1);
         x.function(0, -1, -1, 1);
@@ -166,7 +159,7 @@ public final class MapTest {
     }
 
     private static void emptyCircuit() {
-        CellMapper x = basic();
+        CellMapper x = Samples.withCells();
         CHECK.due("11: nothing to map", x.map(), 0);
         CHECK.due("12: area of nothing", x.area(), 0);
         CHECK.due("13: cellAt(0) of nothing", x.cellAt(0), -1);
@@ -176,7 +169,7 @@ public final class MapTest {
     }
 
     private static void deadNodesHaveNoGates() {
-        CellMapper x = basic();
+        CellMapper x = Samples.withCells();
         x.input();
         x.input();
         x.function(0, 1, -1, 7);
@@ -192,7 +185,7 @@ public final class MapTest {
     }
 
     private static void leastArea() {
-        CellMapper x = basic();
+        CellMapper x = Samples.withCells();
         x.cell(AND, 2, 5);
         x.cell(OR, 3, 5);
         x.input();
@@ -229,7 +222,7 @@ public final class MapTest {
     }
 
     private static void dearCellsAreLeftAlone() {
-        CellMapper x = basic();
+        CellMapper x = Samples.withCells();
         x.cell(AND, 4, 0);
         x.input();
         x.input();
@@ -290,7 +283,7 @@ public final class MapTest {
 
     /** NAND(INV(a), INV(b)) under NAND(INV(pin), pin): which INV is inside shows where the pins lie. */
     private static void leftmostNandNotSwapped() {
-        CellMapper x = basic();
+        CellMapper x = Samples.withCells();
         x.cell(NAND_INV_PIN, 2, 1);
         x.input();
         x.latch(1);
@@ -309,7 +302,7 @@ public final class MapTest {
     }
 
     private static void swappedWhenCheaper() {
-        CellMapper x = basic();
+        CellMapper x = Samples.withCells();
         x.cell(NAND_INV_PIN, 2, 1);
         x.input();
         x.latch(1);
@@ -331,7 +324,7 @@ public final class MapTest {
 
     /** NAND(NAND(pin, pin), pin) over latches of three lengths: the pins show each swap. */
     private static void secondNandNotSwapped() {
-        CellMapper x = basic();
+        CellMapper x = Samples.withCells();
         x.cell(NAND_NAND_PIN, 1, 9);
         x.input();
         x.latch(0);
@@ -356,8 +349,8 @@ public final class MapTest {
      * swapped, and it is the second.
      */
     private static void leftmostNandCountsFirst() {
-        CellMapper x = basic();
-        x.cell(1391, 1, 1);
+        CellMapper x = Samples.withCells();
+        x.cell(Samples.pattern("332111"), 1, 1);
         x.input();
         x.input();
         x.input();
@@ -381,7 +374,7 @@ public final class MapTest {
     }
 
     private static void parityOfThree() {
-        CellMapper x = basic();
+        CellMapper x = Samples.withCells();
         x.input();
         x.input();
         x.input();

@@ -1,7 +1,5 @@
 /** Promises 14 to 17: periods, moves and the latches of the retimed circuit. */
 public final class RetimeTest {
-    private static final int INV = 6;
-    private static final int NAND = 23;
     private static final Check CHECK = new Check();
 
     public static void main(String[] args) {
@@ -22,16 +20,9 @@ public final class RetimeTest {
         CHECK.finish();
     }
 
-    private static CellMapper basic(int invDelay, int nandDelay) {
-        CellMapper x = new CellMapper();
-        x.cell(INV, 1, invDelay);
-        x.cell(NAND, 2, nandDelay);
-        return x;
-    }
-
     /** Input, NAND with the next input, latch, NAND, INV. */
     private static void latchesCutPaths() {
-        CellMapper x = basic(3, 5);
+        CellMapper x = Samples.withCells(3, 5);
         x.input();
         x.input();
         x.latch(1);
@@ -50,7 +41,7 @@ public final class RetimeTest {
     }
 
     private static void slowestGateIsTheLeast() {
-        CellMapper x = basic(7, 4);
+        CellMapper x = Samples.withCells(7, 4);
         x.input();
         x.latch(0);
         x.latch(0);
@@ -66,7 +57,7 @@ public final class RetimeTest {
     }
 
     private static void zeroDelays() {
-        CellMapper x = basic(0, 0);
+        CellMapper x = Samples.withCells(0, 0);
         x.input();
         x.latch(0);
         x.drive(1, 0);
@@ -82,7 +73,7 @@ public final class RetimeTest {
 
     /** in, latch, latch, then NAND(q, INV(q)) and INV: the last gates are reached through all before. */
     private static void movesThroughTwoGates() {
-        CellMapper x = basic(2, 3);
+        CellMapper x = Samples.withCells(2, 3);
         x.input();
         x.latch(1);
         x.latch(1);
@@ -105,7 +96,7 @@ public final class RetimeTest {
 
     /** Six latches before a chain whose period needs one of them moved through one gate. */
     private static void fewestMoves() {
-        CellMapper x = basic(1, 2);
+        CellMapper x = Samples.withCells(1, 2);
         x.input();
         for (int latch = 1; latch <= 6; latch++) {
             x.latch(0);
@@ -124,7 +115,7 @@ public final class RetimeTest {
     }
 
     private static void latchIntoEachConnection() {
-        CellMapper x = basic(1, 2);
+        CellMapper x = Samples.withCells(1, 2);
         x.input();
         x.latch(0);
         x.drive(1, 0);
@@ -145,7 +136,7 @@ public final class RetimeTest {
     }
 
     private static void inputsGiveNoLatches() {
-        CellMapper x = basic(1, 1);
+        CellMapper x = Samples.withCells(1, 1);
         x.input();
         x.input();
         x.latch(1);
@@ -161,7 +152,7 @@ public final class RetimeTest {
 
     /** Two latches at one place of a ring of four gates: one of them goes to the other side. */
     private static void ringOfGates() {
-        CellMapper x = basic(1, 1);
+        CellMapper x = Samples.withCells(1, 1);
         x.latch(0);
         x.latch(1);
         x.drive(1, 0);
@@ -182,7 +173,7 @@ public final class RetimeTest {
 
     /** A ring INV, NAND, INV with two latches before it: both move on, and the last gate feeds the first. */
     private static void signalsAgainstTheNumbers() {
-        CellMapper x = basic(1, 2);
+        CellMapper x = Samples.withCells(1, 2);
         x.latch(0);
         x.latch(1);
         x.latch(0);
@@ -213,27 +204,12 @@ public final class RetimeTest {
         }
     }
 
-    /**
-     * An INV in a ring with its latch, and a tail NAND, INV, NAND, .. NAND of 31 gates of delay 1, each of
-     * which needs a move more than the next one.
-     */
     private static void manyMoves() {
-        CellMapper x = basic(1, 1);
-        x.latch(0);
-        x.latch(0);
-        x.function(0, -1, -1, 1);
-        x.drive(0, 2);
-        x.drive(1, 2);
-        int net = 2;
-        for (int step = 0; step < 16; step++) {
-            net = x.function(net, 1, -1, 11);
-        }
-        x.output(2);
-        x.output(net);
+        CellMapper x = Samples.longTail();
         CHECK.due("11: map()", x.map(), 32);
         CHECK.due("14: the tail in a row", x.period(), 31);
         CHECK.due("15: each gate alone", x.shortest(), 1);
-        int last = x.nodeOf(net);
+        int last = x.nodeOf(18);
         CHECK.due("16: the INV in the ring", x.moves(2), 30);
         CHECK.due("16: the first of the tail", x.moves(x.nodeOf(3)), 30);
         CHECK.due("16: the last but one", x.moves(x.part(last, 1)), 1);
@@ -250,7 +226,7 @@ public final class RetimeTest {
     }
 
     private static void latchesOfOutputs() {
-        CellMapper x = basic(1, 1);
+        CellMapper x = Samples.withCells(1, 1);
         x.input();
         int[] initial = {1, 0, 0, 1, 1, 0};
         for (int k = 0; k < 6; k++) {
@@ -274,7 +250,7 @@ public final class RetimeTest {
     /** The value of a moved latch is that of the pattern: NAND(p, q) for all initial values. */
     private static void latchValues() {
         for (int values = 0; values < 4; values++) {
-            CellMapper x = basic(1, 2);
+            CellMapper x = Samples.withCells(1, 2);
             x.input();
             x.input();
             x.latch(values & 1);
@@ -291,7 +267,7 @@ public final class RetimeTest {
 
     /** A latch that nothing uses: its driver is a gate, and a move there puts no latch anywhere. */
     private static void gateOfNoUse() {
-        CellMapper x = basic(4, 2);
+        CellMapper x = Samples.withCells(4, 2);
         x.input();
         x.latch(1);
         x.latch(1);
@@ -305,7 +281,7 @@ public final class RetimeTest {
     }
 
     private static void noSuchPins() {
-        CellMapper x = basic(1, 1);
+        CellMapper x = Samples.withCells(1, 1);
         x.input();
         x.input();
         x.function(0, 1, -1, 8);
